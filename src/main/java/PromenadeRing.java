@@ -1088,7 +1088,7 @@ public final class PromenadeRing {
         /** C, within so many ( and not. */
         private boolean readAny(int depth) {
             for (int alls = 0; alls < MOST_BYTES; alls++) {
-                for (int atoms = 0; atoms == 0 || take(Word.AND); atoms++) {
+                for (int atoms = 0; atoms < MOST_BYTES && (atoms == 0 || take(Word.AND)); atoms++) {
                     if (!readAtom(depth)) {
                         return false;
                     }
@@ -1147,7 +1147,7 @@ public final class PromenadeRing {
         }
 
         private boolean readSum() {
-            for (int parts = 0; parts == 0 || takeSign('+'); parts++) {
+            for (int parts = 0; parts < MOST_BYTES && (parts == 0 || takeSign('+')); parts++) {
                 int code = codeHere();
                 if (code != NONE && code < CODE_BLACK) {
                     advance();

@@ -218,6 +218,15 @@ public final class HoursTest {
         Check.due("the greatest", most, ring.span(10, true));
         Check.due("SEED stays", 77, ring.seed(1));
         Check.due("span(0)", 0, ring.span(0, true));
+        // The first DRAWS from SEED 1 to 6 are 38, 8, 47, 17, 55, 26 modulo 100, that from SEED 0 is 0.
+        PromenadeRing first = Check.ring("long 10;walker at 0 pace 9;walker at 1 pace 0;mist 8");
+        Check.law(first, "stop if misty");
+        Check.due("none of them is below 8", 4, first.span(2, false));
+        Check.promenade(first, "mist 9");
+        Check.due("one of them is below 9", 2, first.span(2, false));
+        Check.due("others are not", 4, first.span(2, true));
+        Check.promenade(first, "mist 56");
+        Check.due("all of them are below 56", 2, first.span(2, true));
         PromenadeRing four = Check.ring(FiguresTest.FOUR);
         four.hours(2);
         Check.due("of now", 12, four.span(0, false));

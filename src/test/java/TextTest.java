@@ -51,14 +51,16 @@ public final class TextTest {
         Check.due("SHELTERS", 2, ring.count(1));
         Check.due("seats", 3, ring.shelter(1, 1));
         Check.due("texts", 6, ring.count(2));
-        Check.due("14 LINES", 7, Check.promenade(ring, times("hour 1", 14)));
+        Check.due("the least", 7, Check.promenade(ring, "band 0;hour 0;mist 0"));
+        Check.due("HOUR 0", 0, ring.count(5) + ring.count(6));
+        Check.due("14 LINES", 8, Check.promenade(ring, times("hour 1", 14)));
     }
 
     private static void wrongPromenades() {
         PromenadeRing ring = new PromenadeRing();
         String[] texts = {
             "long ^9", "long ^201", "long ^1000", "long ^0100", "long^", "long   ^", "long ^x", "^Long 50", "^lonG 50", "long^G 50",
-            "^longs 50", "^clock", "^;", "^5", " ^lung 50",
+            "^longs 50", "^longz 50", "^zlong 50", "^clock", "^;", "^5", " ^lung 50",
             "long 50;^", "long 50 ; ^", "long 50 ^60", "long 50^,", "long 50;^;long 60",
             "walker ^pace 5", "walker at ^100 pace 5", "walker at 5 ^at", "walker at 5 pace ^100", "walker at 5 pace 5 ^white",
             "walker at 5 pace 5 black ^black", "walker at 5^", "walker at 5 pace^", "walker at 5 pace 5 ^5", "walker^",

@@ -1,4 +1,8 @@
+import java.io.IOException;
+import java.io.UncheckedIOException;
 import java.nio.charset.StandardCharsets;
+import java.nio.file.Files;
+import java.nio.file.Path;
 
 /** What the tests share: answers that are due, exceptions that are due, and bytes for the TAPE. */
 final class Check {
@@ -8,16 +12,31 @@ final class Check {
 
     private static int wrong = 0;
     private static int asked = 0;
+    private static String document = "";
+    private static String sentence = "";
 
     private Check() {
     }
 
-    static void due(String what, int want, int got) {
-        asked++;
-        if (got != want) {
-            wrong++;
-            System.out.println(what + " answered " + got + ", due is " + want);
+    /** All that is asked behind this is of words that stand in the document just so. */
+    static void says(String words) {
+        sentence = "\"" + words + "\": ";
+        due("the document has these words", true, document().contains(words));
+    }
+
+    private static String document() {
+        if (document.isEmpty()) {
+            try {
+                document = Files.readString(Path.of("../shared/DOC.md"));
+            } catch (IOException none) {
+                throw new UncheckedIOException(none);
+            }
         }
+        return document;
+    }
+
+    static void due(String what, int want, int got) {
+        due(what, String.valueOf(want), String.valueOf(got));
     }
 
     static void due(String what, boolean want, boolean got) {
@@ -28,8 +47,12 @@ final class Check {
         asked++;
         if (!want.equals(got)) {
             wrong++;
-            System.out.println(what + " answered " + got + ", due is " + want);
+            System.out.println(sentence + what + " answered " + got + ", due is " + want);
         }
+    }
+
+    static void nothingThrown(String what, Call call) {
+        due(what + " throws", false, outcome(call).endsWith("Exception"));
     }
 
     static void index(String what, Call call) {
@@ -109,6 +132,24 @@ final class Check {
     static void wrongLaw(PromenadeRing ring, String text, int fault) {
         argument("law \"" + text + "\"", () -> law(ring, text));
         due("fault of \"" + text + "\"", fault, ring.fault());
+    }
+
+    /** A wrong text in which ^ stands ahead of the first wrong byte. */
+    static void markedPromenade(PromenadeRing ring, String marked) {
+        wrongPromenade(ring, marked.replace("^", ""), marked.indexOf('^'));
+    }
+
+    static void markedLaw(PromenadeRing ring, String marked) {
+        wrongLaw(ring, marked.replace("^", ""), marked.indexOf('^'));
+    }
+
+    /** So many of a LINE, one behind another. */
+    static String lines(String line, int n) {
+        StringBuilder text = new StringBuilder(line);
+        for (int i = 1; i < n; i++) {
+            text.append(';').append(line);
+        }
+        return text.toString();
     }
 
     static void end(String name) {

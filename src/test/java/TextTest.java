@@ -12,22 +12,6 @@ public final class TextTest {
         Check.end("TextTest");
     }
 
-    private static void wrong(PromenadeRing ring, String marked) {
-        Check.wrongPromenade(ring, marked.replace("^", ""), marked.indexOf('^'));
-    }
-
-    private static void wrongLaw(PromenadeRing ring, String marked) {
-        Check.wrongLaw(ring, marked.replace("^", ""), marked.indexOf('^'));
-    }
-
-    private static String times(String line, int n) {
-        StringBuilder text = new StringBuilder(line);
-        for (int i = 1; i < n; i++) {
-            text.append(';').append(line);
-        }
-        return text.toString();
-    }
-
     private static void rightPromenades() {
         PromenadeRing ring = new PromenadeRing();
         Check.due("empty", 1, Check.promenade(ring, ""));
@@ -53,7 +37,7 @@ public final class TextTest {
         Check.due("texts", 6, ring.count(2));
         Check.due("the least", 7, Check.promenade(ring, "band 0;hour 0;mist 0"));
         Check.due("HOUR 0", 0, ring.count(5) + ring.count(6));
-        Check.due("14 LINES", 8, Check.promenade(ring, times("hour 1", 14)));
+        Check.due("14 LINES", 8, Check.promenade(ring, Check.lines("hour 1", 14)));
     }
 
     private static void wrongPromenades() {
@@ -73,7 +57,7 @@ public final class TextTest {
             "long 20;walker at ^20 pace 1", "long 20;band ^20", "^black", "^stop", "hour 1 ^\n", "^\t",
         };
         for (String text : texts) {
-            wrong(ring, text);
+            Check.markedPromenade(ring, text);
         }
         int[] due = {0, 0, 0, -1, 100, 0, 0, 0};
         for (int what = 0; what < due.length; what++) {
@@ -83,20 +67,20 @@ public final class TextTest {
 
     private static void promenadeLimits() {
         PromenadeRing ring = new PromenadeRing();
-        wrong(ring, times("hour 1", 14) + ";^hour 1");
-        wrong(ring, times("hour 1", 14) + ";^7");
-        wrong(ring, times("hour 1", 14) + "; ^");
-        wrong(ring, times("walker at 0 pace 1", 7) + ";^walker at 0 pace 1");
-        wrong(ring, times("shelter at 0 seats 1", 4) + ";^shelter at 0 seats 1");
-        Check.due("seven", 1, Check.promenade(ring, times("walker at 0 pace 1", 7)));
-        wrong(ring, "^walker at 0 pace 1");
-        wrong(ring, "hour 5;^walker");
+        Check.markedPromenade(ring, Check.lines("hour 1", 14) + ";^hour 1");
+        Check.markedPromenade(ring, Check.lines("hour 1", 14) + ";^7");
+        Check.markedPromenade(ring, Check.lines("hour 1", 14) + "; ^");
+        Check.markedPromenade(ring, Check.lines("walker at 0 pace 1", 7) + ";^walker at 0 pace 1");
+        Check.markedPromenade(ring, Check.lines("shelter at 0 seats 1", 4) + ";^shelter at 0 seats 1");
+        Check.due("seven", 1, Check.promenade(ring, Check.lines("walker at 0 pace 1", 7)));
+        Check.markedPromenade(ring, "^walker at 0 pace 1");
+        Check.markedPromenade(ring, "hour 5;^walker");
         Check.due("the HOUR of a wrong text", 0, ring.count(6));
-        Check.due("four", 2, Check.promenade(ring, times("shelter at 0 seats 1", 4)));
-        wrong(ring, "^shelter at 0 seats 1");
+        Check.due("four", 2, Check.promenade(ring, Check.lines("shelter at 0 seats 1", 4)));
+        Check.markedPromenade(ring, "^shelter at 0 seats 1");
         PromenadeRing out = new PromenadeRing();
         out.out(1);
-        wrong(out, "^long 50");
+        Check.markedPromenade(out, "^long 50");
     }
 
     private static void twelveTexts() {
@@ -110,7 +94,7 @@ public final class TextTest {
         Check.due("nothing of it stays", 12, ring.count(6));
         Check.due("texts", 12, ring.count(2));
         Check.due("the ACT is remembered", 1, ring.count(10));
-        wrong(ring, "hour ^1000");
+        Check.markedPromenade(ring, "hour ^1000");
         Check.due("a law is no such text", 1, Check.law(ring, "stop"));
     }
 
@@ -120,7 +104,7 @@ public final class TextTest {
         String[] texts = {
             "", "  ", "stop", " slow 99 ; haste 0", "stop if black", "stop if not not not not not not black",
             "stop if " + deep + " or " + deep + " and not misty", "stop if not(not(not(hears)))",
-            "slow5if at+pace+gap<met+rounds+hats+walker+999", "haste 5 if 1<2 and 2>1 or misty", times("stop", 12),
+            "slow5if at+pace+gap<met+rounds+hats+walker+999", "haste 5 if 1<2 and 2>1 or misty", Check.lines("stop", 12),
             "slow 007 if 000 < 999", "stop if (black)and(misty)or(hears)",
         };
         int[] lines = {0, 0, 1, 2, 1, 1, 1, 1, 1, 1, 12, 1, 1};
@@ -146,10 +130,10 @@ public final class TextTest {
             "stop if ^mist", "stop if hears and(misty or black^",
         };
         for (String text : texts) {
-            wrongLaw(ring, text);
+            Check.markedLaw(ring, text);
         }
-        wrongLaw(ring, times("stop", 12) + ";^stop");
-        wrongLaw(ring, times("stop", 12) + ";^");
+        Check.markedLaw(ring, Check.lines("stop", 12) + ";^stop");
+        Check.markedLaw(ring, Check.lines("stop", 12) + ";^");
         Check.due("no law stays", -1, ring.count(3));
     }
 
@@ -157,7 +141,7 @@ public final class TextTest {
         PromenadeRing ring = Check.ring("walker at 0 pace 10");
         Check.law(ring, "slow 3;haste 1");
         Check.due("by the law", 8, ring.walker(0, 7));
-        wrongLaw(ring, "haste 50;^halt");
+        Check.markedLaw(ring, "haste 50;^halt");
         Check.due("a wrong one changes nothing", 8, ring.walker(0, 7));
         Check.due("nor its LINES", 2, ring.count(3));
         Check.law(ring, "haste 5");
@@ -169,7 +153,7 @@ public final class TextTest {
 
     private static void faults() {
         PromenadeRing ring = new PromenadeRing();
-        wrong(ring, "long ^9");
+        Check.markedPromenade(ring, "long ^9");
         ring.out(5);
         Check.put(ring, 0, 1, 2);
         Check.argument("rows are no text", ring::ask);
@@ -180,7 +164,7 @@ public final class TextTest {
         Check.due("it is not undone", 5, ring.fault());
         Check.law(ring, "stop");
         Check.due("a right law", -1, ring.fault());
-        wrongLaw(ring, "stop ^now");
+        Check.markedLaw(ring, "stop ^now");
         Check.promenade(ring, " ");
         Check.due("a right text", -1, ring.fault());
     }

@@ -44,11 +44,12 @@ public final class EdgeActsTest {
     }
 
     private static void lads() {
-        Check.says("a lad comes to a WALKER (PACE 10 more, 99 at most)");
         int[][] cases = {{0, 10}, {88, 98}, {89, 99}, {90, 99}, {98, 99}, {99, 99}};
         for (int[] row : cases) {
             PromenadeRing ring = Check.ring("walker at 5 pace " + row[0] + ";walker at 6 pace 1");
+            Check.says("A lad comes: PACE then.");
             Check.due("from " + row[0], row[1], ring.lad(0));
+            Check.says("a lad comes to a WALKER (PACE 10 more, 99 at most)");
             Check.due("PACE then", row[1], ring.walker(0, 1));
             Check.due("PACE of the other one", 1, ring.walker(1, 1));
         }
@@ -231,6 +232,7 @@ public final class EdgeActsTest {
         ring.pace(0, 1);
         Check.due("once more", true, ring.back());
         Check.due("as often as one will", kept.replace("fault -1", "fault 0"), Picture.of(ring));
+        Check.says("`void image()`: THE IMAGE is kept.");
         ring.pace(0, 1);
         ring.image();
         ring.pace(0, 2);

@@ -36,6 +36,7 @@ public final class EdgeAskedTest {
         for (int k = 0; k < due.length; k++) {
             Check.due("order(" + k + ")", due[k], ring.order(k));
         }
+        Check.says("`int order(int k)`: ORDER; NONE.");
         for (int k : new int[] {-1, 7, 8, Integer.MAX_VALUE, Integer.MIN_VALUE}) {
             Check.due("order(" + k + ")", -1, ring.order(k));
         }
@@ -133,6 +134,7 @@ public final class EdgeAskedTest {
         Check.due("in one", 1, ring.alone(0, 6));
         Check.due("the latest there is", 199, ring.alone(0, 4));
         Check.due("over PLACE 0", 195, ring.alone(0, 0));
+        Check.says("ALONE; NONE.");
         Check.due("who stands is there", 0, ring.alone(1, 5));
         Check.due("who stands is nowhere else", -1, ring.alone(1, 6));
         // 99 times 199 is 19701, which is 101 by 200; 5 and 101 is 106.
@@ -184,7 +186,8 @@ public final class EdgeAskedTest {
     }
 
     private static void standsFewest() {
-        Check.says("so that its CIRCLE of N is just the set: of several the least as bits (bit 0 the next HOUR); none.");
+        Check.says("the fewest HOURS of the next N in which it must stand still (STRIDE 0; all else IN N HOURS) so that its CIRCLE of N "
+            + "is just the set: of several the least as bits (bit 0 the next HOUR); none.");
         // By 5 yards an HOUR 0 is at 30 in six HOURS.
         PromenadeRing ring = Check.ring("walker at 0 pace 5;walker at 30 pace 0");
         Check.due("by it in six", 0, ring.stands(0, 2, 6));
@@ -221,6 +224,7 @@ public final class EdgeAskedTest {
         Check.due("nobody, with all that there are not", 1, near.stands(0, -8, 1));
         Check.due("with one more", -1, near.stands(0, 6, 1));
         Check.due("all", -1, near.stands(0, -1, 1));
+        Check.says("Sets are bits; of none they count for nothing.");
         Check.due("the least number as bits", 1, near.stands(0, Integer.MIN_VALUE, 1));
         Check.due("all there are, by all bits", 0, Check.ring("walker at 0 pace 5;walker at 4 pace 0").stands(0, -1, 1));
     }

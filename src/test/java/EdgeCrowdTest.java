@@ -28,6 +28,8 @@ public final class EdgeCrowdTest {
         for (int t = 1; t <= 20; t++) {
             Check.due("1 yard and " + t + " turns", 1, ring.chase(1, t));
         }
+        Check.says("then he, seeing it, goes 2 or 4 yards, but if he went 4 the turn ahead, then 2 alone (at first he may); he has her, "
+            + "when the gap is 0 or less behind his going");
         // She goes 3 yards each turn: 4 yards of his make a gap of 2 one of 1, the 2 that must follow 2 again.
         for (int g = 2; g <= 40; g++) {
             Check.due(g + " yards", -1, ring.chase(g, 20));
@@ -97,6 +99,8 @@ public final class EdgeCrowdTest {
 
     private static void rests() {
         Check.says("choices (2 times the first one's and the other one's) from which neither would have more by its other one: as bits.");
+        Check.says("both raising each has 2; who raises alone has 0 less HATS by 10, rounded down, less 1, the other one 1; both looking away "
+            + "each has 0, but 1 less who is not in BLACK");
         // Both raising is 2 to 1 of who looks away; both looking away is 0 or -1, and raising alone -1 at most.
         PromenadeRing ring = Check.ring("long 10;walker at 5 pace 0;walker at 0 pace 9 black;walker at 5 pace 0 black;walker at 5 pace 0");
         for (int hours : new int[] {1, 8, 1, 1, 200, 200, 200, 200, 200, 200}) {
@@ -150,6 +154,7 @@ public final class EdgeCrowdTest {
 
     private static void fastest() {
         Check.says("FASTEST, SLOWEST by STRIDE (of several the least, if it is 0, too; none without WALKERS).");
+        Check.says("FASTEST (most true), or SLOWEST; NONE.");
         Check.due("nobody", -1, new PromenadeRing().fastest(true));
         Check.due("nobody, the slowest", -1, new PromenadeRing().fastest(false));
         PromenadeRing ring = Check.ring("walker at 0 pace 5;walker at 0 pace 0;walker at 0 pace 9;walker at 0 pace 0;walker at 0 pace 9");
@@ -168,8 +173,9 @@ public final class EdgeCrowdTest {
     }
 
     private static void popular() {
-        Check.says("POPULAR: who MET the most (of several the least, if it is none, too; none without WALKERS).");
+        Check.says("`int popular()`: POPULAR; NONE.");
         Check.due("nobody", -1, new PromenadeRing().popular());
+        Check.says("POPULAR: who MET the most (of several the least, if it is none, too; none without WALKERS).");
         PromenadeRing ring = Check.ring("walker at 50 pace 0;walker at 60 pace 0;walker at 0 pace 50");
         Check.due("none MET", 0, ring.popular());
         ring.hours(1);

@@ -20,12 +20,14 @@ public final class EdgeFullTest {
     }
 
     private static void nobody() {
-        Check.says("A promenade of nobody.");
         PromenadeRing ring = new PromenadeRing();
+        Check.says("0 WALKERS, 1 SHELTERS, 2 texts of THE PROMENADE, 3 LINES of THE LAW (NONE without one), 4 LONG, 5 the PLACE of the BAND, "
+            + "6 HOUR, 7 1 if it is MISTY, 8 HATS of all together, 9 rows of THE LOG, 10 acts that can be UNDONE.");
         int[] counts = {0, 0, 0, -1, 100, 0, 0, 0, 0, 0, 0};
         for (int what = 0; what < counts.length; what++) {
             Check.due("count(" + what + ")", counts[what], ring.count(what));
         }
+        Check.says("A promenade of nobody.");
         Check.due("fault", -1, ring.fault());
         Check.due("order", -1, ring.order(0));
         Check.due("backs", 1, ring.backs(-1));

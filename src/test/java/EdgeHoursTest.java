@@ -22,10 +22,12 @@ public final class EdgeHoursTest {
     }
 
     private static void ahead() {
-        Check.says("AHEAD of a WALKER: the other one of the least GAP from its PLACE to that one's (of several the least number)");
+        Check.says("8 AHEAD (NONE), 9 GAP to that one (NONE), 10 FAR (NONE)");
         PromenadeRing one = Check.ring("walker at 5 pace 1");
+        Check.due("FAR of one alone", -1, one.walker(0, 10));
         Check.due("of one alone", -1, one.walker(0, 8));
         Check.due("GAP of one alone", -1, one.walker(0, 9));
+        Check.says("AHEAD of a WALKER: the other one of the least GAP from its PLACE to that one's (of several the least number)");
         PromenadeRing two = Check.ring("walker at 5 pace 1;walker at 4 pace 1");
         Check.due("round to just behind", 1, two.walker(0, 8));
         Check.due("that GAP", 99, two.walker(0, 9));
@@ -216,6 +218,7 @@ public final class EdgeHoursTest {
             ring.hours(1);
             Check.due("behind " + seed, next(seed), ring.seed(0));
         }
+        Check.says("`int seed(int n)`: SEED: what it was.");
         Check.due("as told", 0, ring.seed(Integer.MIN_VALUE));
         Check.due("the least", Integer.MIN_VALUE, ring.seed(Integer.MAX_VALUE));
         Check.due("the greatest", Integer.MAX_VALUE, ring.seed(1));
@@ -306,6 +309,7 @@ public final class EdgeHoursTest {
         PromenadeRing more = Check.ring("long 10;walker at 0 pace 9;walker at 1 pace 0");
         more.hours(135);
         rows(more, 135);
+        Check.says("THE LOG so many ago (0 the latest) what 0 HOUR, 1 who came by, 2 whom, 3 the PLACE; NONE without.");
         for (int none : new int[] {-1, 60, 61, Integer.MAX_VALUE, Integer.MIN_VALUE}) {
             Check.due("log(" + none + ", 0)", -1, more.log(none, 0));
         }
@@ -338,6 +342,7 @@ public final class EdgeHoursTest {
         Check.due("HOUR 0", 0, ring.led(2, true));
         Check.due("who is come by did not", 0, ring.led(1, false));
         Check.due("no HOUR of that one", -1, ring.led(1, true));
+        Check.says("LED: how many rows (hour false), or the HOUR; NONE.");
         ring.hours(100);
         Check.due("60 rows are newer", 0, ring.led(2, false));
         Check.due("no HOUR any more", -1, ring.led(2, true));

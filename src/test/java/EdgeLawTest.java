@@ -46,7 +46,9 @@ public final class EdgeLawTest {
     private static void inPlace() {
         Check.says("THE LAW (a text, in place of the one before)");
         PromenadeRing ring = Check.ring("walker at 0 pace 10");
+        Check.says("3 LINES of THE LAW (NONE without one)");
         Check.due("LINES without one", -1, ring.count(3));
+        Check.says("`int law() throws IllegalArgumentException`: Uses the TAPE up: THE LAW: how many LINES. IllegalArgumentException: the text is wrong.");
         stride(ring, "haste 5;haste 6;haste 7", 28);
         stride(ring, "slow 1", 9);
         Check.due("LINES", 1, ring.count(3));
@@ -92,6 +94,7 @@ public final class EdgeLawTest {
         wrong("stop if 5 > ^1000");
         wrong("stop if 5 + ^1000 > 5");
         PromenadeRing ring = Check.ring("walker at 0 pace 5");
+        Check.says("SUM: PART { + PART }");
         holds(ring, "998 < 999", true);
         holds(ring, "999 < 999", false);
         holds(ring, "999 + 999 > 999 + 998", true);

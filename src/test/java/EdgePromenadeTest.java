@@ -44,6 +44,7 @@ public final class EdgePromenadeTest {
         Check.markedPromenade(ring, "hour 77;^x");
         Check.due("HOUR of the 11th", 11, ring.count(6));
         Check.due("twelve", 12, ring.count(2));
+        Check.says("Uses the TAPE up: a text of THE PROMENADE: how many there are.");
         PromenadeRing tried = new PromenadeRing();
         for (int n = 0; n < 20; n++) {
             Check.markedPromenade(tried, "^x");

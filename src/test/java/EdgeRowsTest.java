@@ -74,6 +74,7 @@ public final class EdgeRowsTest {
             Check.due("of seven without rows: " + k, k, backs(seven, k));
             Check.due("of seven by two rows: " + k, due[k], backs(seven, k, rows));
         }
+        Check.says("how many (k NONE), or the k-th of FIRST; NONE.");
         for (int k : new int[] {-2, 7, 8, 31, 32, Integer.MAX_VALUE, Integer.MIN_VALUE}) {
             Check.due("no " + k, -1, backs(seven, k, rows));
         }
@@ -161,6 +162,7 @@ public final class EdgeRowsTest {
         Check.due("0 yards, the least", 10, round(true, 0, 1));
         Check.due("0 yards not again", 0, round(false, 0, 0));
         Check.due("0 yards not again, no least", -1, round(true, 0, 0));
+        Check.says("how many lengths (least false), or LEAST; NONE.");
         Check.due("again and not", 0, round(false, 60, 1, 60, 0));
         Check.due("again and not, no least", -1, round(true, 60, 1, 60, 0));
     }

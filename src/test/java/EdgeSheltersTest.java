@@ -56,6 +56,7 @@ public final class EdgeSheltersTest {
 
     private static void ear() {
         Check.says("EAR: the least E (1 to 200) with which calls of each come to each other one (1 of one alone; none without WALKERS).");
+        Check.says("`int ear()`: EAR; NONE.");
         Check.due("nobody", -1, new PromenadeRing().ear());
         Check.due("nobody but SHELTERS", -1, Check.ring("shelter at 0 seats 1").ear());
         Check.due("one alone", 1, Check.ring("long 200;walker at 9 pace 0").ear());

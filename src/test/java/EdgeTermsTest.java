@@ -29,10 +29,12 @@ public final class EdgeTermsTest {
         Check.says("PLACES 0 to LONG less 1, one behind another, 0 behind the last one");
         for (int yards : new int[] {10, 100, 200}) {
             PromenadeRing ring = Check.ring("long " + yards);
+            Check.says("GAP from a PLACE to another one: how many yards on it is (0 to LONG less 1).");
             Check.due("from the last to 0", 1, ring.gap(yards - 1, 0));
             Check.due("from 0 to the last", yards - 1, ring.gap(0, yards - 1));
             Check.due("from 1 to 0", yards - 1, ring.gap(1, 0));
             Check.due("from the last to itself", 0, ring.gap(yards - 1, yards - 1));
+            Check.says("`int gap(int place, int other) throws IndexOutOfBoundsException`: GAP of two PLACES.");
             for (int none : new int[] {-1, yards, Integer.MAX_VALUE, Integer.MIN_VALUE}) {
                 Check.index("from " + none, () -> ring.gap(none, 0));
                 Check.index("to " + none, () -> ring.gap(0, none));
@@ -130,10 +132,13 @@ public final class EdgeTermsTest {
         Check.says("HOUR 0 to 9999 (0 at first)");
         PromenadeRing ring = new PromenadeRing();
         Check.due("at first", 0, ring.count(6));
+        Check.due("one more", 0, ring.hours(1));
+        Check.due("HOUR 1", 1, ring.count(6));
         Check.promenade(ring, "hour 999");
         for (int i = 0; i < 44; i++) {
             ring.hours(200);
         }
+        Check.says("HOUR is 1 more (9999 at most).");
         ring.hours(199);
         Check.due("just below the most", 9998, ring.count(6));
         ring.hours(1);

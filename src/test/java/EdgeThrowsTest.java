@@ -10,10 +10,12 @@ public final class EdgeThrowsTest {
         Object answer(PromenadeRing ring, int n);
     }
 
-    record Bounded(String name, int least, int most, OfOne call) {
+    /** A call that takes numbers from the least to the most, and the document's words for it. */
+    record Bounded(String says, int least, int most, OfOne call) {
     }
 
-    record Named(String name, OfOne call) {
+    /** A call of one WALKER, SHELTER or PLACE, and the document's words for it. */
+    record Named(String says, OfOne call) {
     }
 
     private static final String RING = "long 50;walker at 5 pace 30;walker at 20 pace 3 black;walker at 20 pace 0;shuns 1 2;"
@@ -21,6 +23,8 @@ public final class EdgeThrowsTest {
     private static final int WALKERS = 3;
     private static final int SHELTERS = 2;
     private static final int LONG = 50;
+    /** So many of the first calls with bounds are ACTS. */
+    private static final int ACTS = 3;
 
     public static void main(String[] args) {
         numbers();
@@ -50,140 +54,158 @@ public final class EdgeThrowsTest {
         return ring;
     }
 
-    private static void refused(String name, String exception, OfOne call, int n) {
+    private static void refused(String exception, OfOne call, int n) {
         PromenadeRing ring = busy();
         String before = Picture.of(ring);
-        Check.due(name + " of " + n, exception, Check.outcome(() -> call.answer(ring, n)));
-        Check.due(name + " of " + n + " changes nothing", before, Picture.of(ring));
-        Check.due(name + " of " + n + " leaves the TAPE", 27, ring.feed(0, 0, 0, 0, 0));
+        Check.due("of " + n, exception, Check.outcome(() -> call.answer(ring, n)));
+        Check.due("of " + n + " nothing is changed", before, Picture.of(ring));
+        Check.due("of " + n + " the TAPE is left", 27, ring.feed(0, 0, 0, 0, 0));
         ring.back();
-        Check.due(name + " of " + n + " leaves THE IMAGE", 3, ring.walker(1, 1));
+        Check.due("of " + n + " THE IMAGE is left", 3, ring.walker(1, 1));
     }
 
-    private static void taken(String name, OfOne call, int n) {
+    private static void taken(OfOne call, int n) {
         PromenadeRing ring = busy();
-        Check.nothingThrown(name + " of " + n, () -> call.answer(ring, n));
+        Check.nothingThrown("of " + n, () -> call.answer(ring, n));
+    }
+
+    private static void within(Bounded b, String exception) {
+        Check.says(b.says);
+        for (int n : new int[] {b.least, b.least + 1, b.most - 1, b.most}) {
+            taken(b.call, n);
+        }
+        for (int n : new int[] {b.least - 1, b.most + 1, Integer.MIN_VALUE, Integer.MAX_VALUE}) {
+            refused(exception, b.call, n);
+        }
+    }
+
+    private static void thereAre(Named c, int many, int... none) {
+        Check.says(c.says);
+        taken(c.call, many - 1);
+        for (int n : none) {
+            refused("IndexOutOfBoundsException", c.call, n);
+        }
     }
 
     private static List<Bounded> bounded() {
         List<Bounded> all = new ArrayList<>();
-        all.add(new Bounded("hours", 1, 200, PromenadeRing::hours));
-        all.add(new Bounded("out", 0, 99, PromenadeRing::out));
-        all.add(new Bounded("pace", 0, 99, (ring, n) -> ring.pace(2, n)));
-        all.add(new Bounded("where", 0, 200, (ring, n) -> ring.where(2, n)));
-        all.add(new Bounded("circle", 0, 200, (ring, n) -> ring.circle(2, n)));
-        all.add(new Bounded("laps", 0, 200, (ring, n) -> ring.laps(2, n)));
-        all.add(new Bounded("stands", 1, 6, (ring, n) -> ring.stands(2, 3, n)));
-        all.add(new Bounded("calls", 1, 200, (ring, n) -> ring.calls(2, 0, n)));
-        all.add(new Bounded("calls to itself", 1, 200, (ring, n) -> ring.calls(2, 2, n)));
-        all.add(new Bounded("told", 1, 200, (ring, n) -> ring.told(2, n)));
-        all.add(new Bounded("few", 0, 199, PromenadeRing::few));
-        all.add(new Bounded("chase G", 1, 40, (ring, n) -> ring.chase(n, 20)));
-        all.add(new Bounded("chase T", 0, 20, (ring, n) -> ring.chase(1, n)));
-        all.add(new Bounded("odds N", 0, 5, (ring, n) -> ring.odds(n, 0)));
-        all.add(new Bounded("odds K", 0, 5, (ring, n) -> ring.odds(0, n)));
-        all.add(new Bounded("bunch", 0, 199, PromenadeRing::bunch));
-        all.add(new Bounded("trial, HATS", 0, 200, (ring, n) -> ring.trial(n, false)));
-        all.add(new Bounded("trial, MISTY", 0, 200, (ring, n) -> ring.trial(n, true)));
-        all.add(new Bounded("span, the least", 0, 200, (ring, n) -> ring.span(n, false)));
-        all.add(new Bounded("span, the greatest", 0, 200, (ring, n) -> ring.span(n, true)));
+        all.add(new Bounded("IllegalArgumentException: they are none.", 1, 200, PromenadeRing::hours));
+        all.add(new Bounded("One sets out: its number. IllegalArgumentException: PACE is none (0 to 99)", 0, 99, PromenadeRing::out));
+        all.add(new Bounded("PACE is told: what it was. IllegalArgumentException: it is none.", 0, 99, (ring, n) -> ring.pace(2, n)));
+        String where = "WHERE. IllegalArgumentException: N is none (0 to 200).";
+        all.add(new Bounded(where, 0, 200, (ring, n) -> ring.where(2, n)));
+        String circle = "CIRCLE, as bits. IllegalArgumentException: N is none.";
+        all.add(new Bounded(circle, 0, 200, (ring, n) -> ring.circle(2, n)));
+        String laps = "LAPS. IllegalArgumentException: N is none (0 to 200).";
+        all.add(new Bounded(laps, 0, 200, (ring, n) -> ring.laps(2, n)));
+        String stands = "(others than there are, and itself, count for nothing). IllegalArgumentException: N is none.";
+        all.add(new Bounded(stands, 1, 6, (ring, n) -> ring.stands(2, 3, n)));
+        String calls = "CALLS (0 to itself); NONE. IllegalArgumentException: E is none.";
+        all.add(new Bounded(calls, 1, 200, (ring, n) -> ring.calls(2, 0, n)));
+        all.add(new Bounded(calls, 1, 200, (ring, n) -> ring.calls(2, 2, n)));
+        String told = "TOLD, as bits. IllegalArgumentException: E is none.";
+        all.add(new Bounded(told, 1, 200, (ring, n) -> ring.told(2, n)));
+        all.add(new Bounded("FEW, as bits; NONE. IllegalArgumentException: N is none.", 0, 199, PromenadeRing::few));
+        String chase = "CHASE; NONE. IllegalArgumentException: G or T are none.";
+        all.add(new Bounded(chase, 1, 40, (ring, n) -> ring.chase(n, 20)));
+        all.add(new Bounded(chase, 0, 20, (ring, n) -> ring.chase(1, n)));
+        String odds = "ODDS. IllegalArgumentException: N or K are none.";
+        all.add(new Bounded(odds, 0, 5, (ring, n) -> ring.odds(n, 0)));
+        all.add(new Bounded(odds, 0, 5, (ring, n) -> ring.odds(0, n)));
+        all.add(new Bounded("BUNCH. IllegalArgumentException: E is none.", 0, 199, PromenadeRing::bunch));
+        String trial = "TRIAL: HATS (misty false), or how many HOURS. IllegalArgumentException: N is none.";
+        all.add(new Bounded(trial, 0, 200, (ring, n) -> ring.trial(n, false)));
+        all.add(new Bounded(trial, 0, 200, (ring, n) -> ring.trial(n, true)));
+        String span = "SPAN: the least (most false), or the greatest. IllegalArgumentException: N is none (0 to 200).";
+        all.add(new Bounded(span, 0, 200, (ring, n) -> ring.span(n, false)));
+        all.add(new Bounded(span, 0, 200, (ring, n) -> ring.span(n, true)));
         return all;
     }
 
     private static void numbers() {
         Check.says("IllegalArgumentException: a number is none, or two are one.");
         for (Bounded b : bounded()) {
-            for (int n : new int[] {b.least, b.least + 1, b.most - 1, b.most}) {
-                taken(b.name, b.call, n);
-            }
-            for (int n : new int[] {b.least - 1, b.most + 1, Integer.MIN_VALUE, Integer.MAX_VALUE}) {
-                refused(b.name, "IllegalArgumentException", b.call, n);
-            }
+            within(b, "IllegalArgumentException");
         }
     }
 
     private static List<Named> ofWalkers() {
         List<Named> all = new ArrayList<>();
-        all.add(new Named("walker", (ring, n) -> ring.walker(n, 0)));
-        all.add(new Named("pace", (ring, n) -> ring.pace(n, 5)));
-        all.add(new Named("shun by", (ring, n) -> ring.shun(n, 0, true)));
-        all.add(new Named("shun", (ring, n) -> ring.shun(0, n, false)));
-        all.add(new Named("mourn", (ring, n) -> ring.mourn(n, true)));
-        all.add(new Named("lad", PromenadeRing::lad));
-        all.add(new Named("where", (ring, n) -> ring.where(n, 1)));
-        all.add(new Named("up", (ring, n) -> ring.up(n, 0)));
-        all.add(new Named("up with", (ring, n) -> ring.up(0, n)));
-        all.add(new Named("circle", (ring, n) -> ring.circle(n, 1)));
-        all.add(new Named("laps", (ring, n) -> ring.laps(n, 1)));
-        all.add(new Named("alone", (ring, n) -> ring.alone(n, 0)));
-        all.add(new Named("both", (ring, n) -> ring.both(n, 0)));
-        all.add(new Named("both with", (ring, n) -> ring.both(0, n)));
-        all.add(new Named("period", PromenadeRing::period));
-        all.add(new Named("stands", (ring, n) -> ring.stands(n, 0, 1)));
-        all.add(new Named("calls from", (ring, n) -> ring.calls(n, 0, 1)));
-        all.add(new Named("calls to", (ring, n) -> ring.calls(0, n, 1)));
-        all.add(new Named("told", (ring, n) -> ring.told(n, 1)));
-        all.add(new Named("rests", (ring, n) -> ring.rests(n, 0)));
-        all.add(new Named("rests with", (ring, n) -> ring.rests(0, n)));
-        all.add(new Named("led", (ring, n) -> ring.led(n, false)));
-        all.add(new Named("led, the HOUR", (ring, n) -> ring.led(n, true)));
+        all.add(new Named("int walker(int walker, int what) throws IndexOutOfBoundsException", (ring, n) -> ring.walker(n, 0)));
+        all.add(new Named("int pace(int walker, int n) throws IndexOutOfBoundsException", (ring, n) -> ring.pace(n, 5)));
+        all.add(new Named("boolean shun(int walker, int other, boolean is) throws IndexOutOfBoundsException", (ring, n) -> ring.shun(n, 0, true)));
+        all.add(new Named("boolean shun(int walker, int other, boolean is) throws IndexOutOfBoundsException", (ring, n) -> ring.shun(0, n, false)));
+        all.add(new Named("boolean mourn(int walker, boolean is) throws IndexOutOfBoundsException", (ring, n) -> ring.mourn(n, true)));
+        all.add(new Named("int lad(int walker) throws IndexOutOfBoundsException", PromenadeRing::lad));
+        all.add(new Named("int where(int walker, int n) throws IndexOutOfBoundsException", (ring, n) -> ring.where(n, 1)));
+        all.add(new Named("int up(int walker, int other) throws IndexOutOfBoundsException", (ring, n) -> ring.up(n, 0)));
+        all.add(new Named("int up(int walker, int other) throws IndexOutOfBoundsException", (ring, n) -> ring.up(0, n)));
+        all.add(new Named("int circle(int walker, int n) throws IndexOutOfBoundsException", (ring, n) -> ring.circle(n, 1)));
+        all.add(new Named("int laps(int walker, int n) throws IndexOutOfBoundsException", (ring, n) -> ring.laps(n, 1)));
+        all.add(new Named("int alone(int walker, int place) throws IndexOutOfBoundsException", (ring, n) -> ring.alone(n, 0)));
+        all.add(new Named("int both(int walker, int other) throws IndexOutOfBoundsException", (ring, n) -> ring.both(n, 0)));
+        all.add(new Named("int both(int walker, int other) throws IndexOutOfBoundsException", (ring, n) -> ring.both(0, n)));
+        all.add(new Named("int period(int walker) throws IndexOutOfBoundsException", PromenadeRing::period));
+        all.add(new Named("int stands(int walker, int set, int n) throws IndexOutOfBoundsException", (ring, n) -> ring.stands(n, 0, 1)));
+        all.add(new Named("int calls(int walker, int other, int e) throws IndexOutOfBoundsException", (ring, n) -> ring.calls(n, 0, 1)));
+        all.add(new Named("int calls(int walker, int other, int e) throws IndexOutOfBoundsException", (ring, n) -> ring.calls(0, n, 1)));
+        all.add(new Named("int told(int walker, int e) throws IndexOutOfBoundsException", (ring, n) -> ring.told(n, 1)));
+        all.add(new Named("int rests(int walker, int other) throws IndexOutOfBoundsException", (ring, n) -> ring.rests(n, 0)));
+        all.add(new Named("int rests(int walker, int other) throws IndexOutOfBoundsException", (ring, n) -> ring.rests(0, n)));
+        all.add(new Named("int led(int walker, boolean hour) throws IndexOutOfBoundsException", (ring, n) -> ring.led(n, false)));
+        all.add(new Named("int led(int walker, boolean hour) throws IndexOutOfBoundsException", (ring, n) -> ring.led(n, true)));
         return all;
     }
 
     private static void walkers() {
         Check.says("IndexOutOfBoundsException: there is no such WALKER, SHELTER, PLACE.");
         for (Named c : ofWalkers()) {
-            taken(c.name, c.call, WALKERS - 1);
-            for (int n : new int[] {-1, WALKERS, 7, 31, 32, Integer.MIN_VALUE, Integer.MAX_VALUE}) {
-                refused(c.name, "IndexOutOfBoundsException", c.call, n);
-            }
+            thereAre(c, WALKERS, -1, WALKERS, 7, 31, 32, Integer.MIN_VALUE, Integer.MAX_VALUE);
         }
-        Named[] ofNone = {new Named("seated", PromenadeRing::seated), new Named("couples", PromenadeRing::couples)};
+        Named[] ofNone = {new Named("int seated(int walker) throws IndexOutOfBoundsException", PromenadeRing::seated),
+            new Named("int couples(int walker) throws IndexOutOfBoundsException", PromenadeRing::couples)};
         for (Named c : ofNone) {
-            taken(c.name, c.call, PromenadeRing.NONE);
-            taken(c.name, c.call, WALKERS - 1);
-            for (int n : new int[] {-2, WALKERS, Integer.MIN_VALUE, Integer.MAX_VALUE}) {
-                refused(c.name, "IndexOutOfBoundsException", c.call, n);
-            }
+            thereAre(c, WALKERS, -2, WALKERS, Integer.MIN_VALUE, Integer.MAX_VALUE);
+            taken(c.call, PromenadeRing.NONE);
         }
     }
 
     private static void shelters() {
         Check.says("IndexOutOfBoundsException: there is no such WALKER, SHELTER, PLACE.");
-        Named[] calls = {new Named("shelter", (ring, n) -> ring.shelter(n, 0)), new Named("BEST", (ring, n) -> ring.shelter(n, 2)),
-            new Named("move", (ring, n) -> ring.move(n, 0))};
+        String shelter = "int shelter(int shelter, int what) throws IndexOutOfBoundsException";
+        String move = "int move(int shelter, int place) throws IndexOutOfBoundsException";
+        Named[] calls = {new Named(shelter, (ring, n) -> ring.shelter(n, 0)), new Named(shelter, (ring, n) -> ring.shelter(n, 2)),
+            new Named(move, (ring, n) -> ring.move(n, 0))};
         for (Named c : calls) {
-            taken(c.name, c.call, SHELTERS - 1);
-            for (int n : new int[] {-1, SHELTERS, 4, Integer.MIN_VALUE, Integer.MAX_VALUE}) {
-                refused(c.name, "IndexOutOfBoundsException", c.call, n);
-            }
+            thereAre(c, SHELTERS, -1, SHELTERS, 4, Integer.MIN_VALUE, Integer.MAX_VALUE);
         }
     }
 
     private static void places() {
         Check.says("IndexOutOfBoundsException: there is no such WALKER, SHELTER, PLACE.");
-        Named[] calls = {new Named("gap from", (ring, n) -> ring.gap(n, 0)), new Named("gap to", (ring, n) -> ring.gap(0, n)),
-            new Named("move to", (ring, n) -> ring.move(0, n)), new Named("alone at", (ring, n) -> ring.alone(0, n))};
+        String gap = "int gap(int place, int other) throws IndexOutOfBoundsException";
+        String move = "int move(int shelter, int place) throws IndexOutOfBoundsException";
+        String alone = "int alone(int walker, int place) throws IndexOutOfBoundsException";
+        Named[] calls = {new Named(gap, (ring, n) -> ring.gap(n, 0)), new Named(gap, (ring, n) -> ring.gap(0, n)),
+            new Named(move, (ring, n) -> ring.move(0, n)), new Named(alone, (ring, n) -> ring.alone(0, n))};
         for (Named c : calls) {
-            taken(c.name, c.call, 0);
-            taken(c.name, c.call, LONG - 1);
-            for (int n : new int[] {-1, LONG, 100, Integer.MIN_VALUE, Integer.MAX_VALUE}) {
-                refused(c.name, "IndexOutOfBoundsException", c.call, n);
-            }
+            thereAre(c, LONG, -1, LONG, 100, Integer.MIN_VALUE, Integer.MAX_VALUE);
         }
     }
 
     private static void twoAreOne() {
-        Check.says("IllegalArgumentException: both are one.");
-        Named[] calls = {new Named("shun", (ring, n) -> ring.shun(n, n, true)), new Named("shun no more", (ring, n) -> ring.shun(n, n, false)),
-            new Named("up", (ring, n) -> ring.up(n, n)), new Named("both", (ring, n) -> ring.both(n, n)),
-            new Named("rests", (ring, n) -> ring.rests(n, n))};
+        String shun = "One SHUNS another one, or does not: whether that changed. IllegalArgumentException: both are one.";
+        Named[] calls = {new Named(shun, (ring, n) -> ring.shun(n, n, true)), new Named(shun, (ring, n) -> ring.shun(n, n, false)),
+            new Named("UP; NONE. IllegalArgumentException: both are one.", (ring, n) -> ring.up(n, n)),
+            new Named("BOTH; NONE. IllegalArgumentException: both are one.", (ring, n) -> ring.both(n, n)),
+            new Named("RESTS, as bits. IllegalArgumentException: both are one.", (ring, n) -> ring.rests(n, n))};
         for (Named c : calls) {
+            Check.says(c.says);
             for (int n = 0; n < WALKERS; n++) {
-                refused(c.name, "IllegalArgumentException", c.call, n);
+                refused("IllegalArgumentException", c.call, n);
             }
-            refused(c.name, "IndexOutOfBoundsException", c.call, WALKERS);
-            refused(c.name, "IndexOutOfBoundsException", c.call, -1);
+            refused("IndexOutOfBoundsException", c.call, WALKERS);
+            refused("IndexOutOfBoundsException", c.call, -1);
         }
         Check.says("CALLS (0 to itself); NONE.");
         for (int n = 0; n < WALKERS; n++) {
@@ -192,19 +214,14 @@ public final class EdgeThrowsTest {
     }
 
     private static void whats() {
-        Check.says("NoSuchElementException: another what.");
-        Bounded[] calls = {new Bounded("walker", 0, 13, (ring, n) -> ring.walker(2, n)),
-            new Bounded("shelter", 0, 2, (ring, n) -> ring.shelter(1, n)), new Bounded("log", 0, 3, (ring, n) -> ring.log(0, n)),
-            new Bounded("log without a row", 0, 3, (ring, n) -> ring.log(99, n))};
+        String log = "3 the PLACE; NONE without. NoSuchElementException: another what.";
+        Bounded[] calls = {new Bounded("13 SHARE. NoSuchElementException: another what.", 0, 13, (ring, n) -> ring.walker(2, n)),
+            new Bounded("2 BEST. NoSuchElementException: another what.", 0, 2, (ring, n) -> ring.shelter(1, n)),
+            new Bounded(log, 0, 3, (ring, n) -> ring.log(0, n)), new Bounded(log, 0, 3, (ring, n) -> ring.log(99, n))};
         for (Bounded b : calls) {
-            for (int n = b.least; n <= b.most; n++) {
-                taken(b.name, b.call, n);
-            }
-            for (int n : new int[] {b.least - 1, b.most + 1, Integer.MIN_VALUE, Integer.MAX_VALUE}) {
-                refused(b.name, "NoSuchElementException", b.call, n);
-            }
+            within(b, "NoSuchElementException");
         }
-        Check.says("NONE for another what.");
+        Check.says("10 acts that can be UNDONE. NONE for another what.");
         for (int n : new int[] {-1, 11, Integer.MIN_VALUE, Integer.MAX_VALUE}) {
             Check.due("count(" + n + ")", -1, busy().count(n));
         }
@@ -225,43 +242,47 @@ public final class EdgeThrowsTest {
 
     private static void firstTold() {
         Check.says("Of several exceptions the one told first is thrown");
-        for (int no : new int[] {-1, WALKERS}) {
-            String index = "IndexOutOfBoundsException";
-            refused("walker, another what", index, (ring, n) -> ring.walker(n, 14), no);
-            refused("pace", index, (ring, n) -> ring.pace(n, 100), no);
-            refused("shun, the other one is none", index, (ring, n) -> ring.shun(0, n, true), no);
-            refused("where", index, (ring, n) -> ring.where(n, 201), no);
-            refused("circle", index, (ring, n) -> ring.circle(n, -1), no);
-            refused("laps", index, (ring, n) -> ring.laps(n, 201), no);
-            refused("alone, no PLACE", index, (ring, n) -> ring.alone(n, 50), no);
-            refused("stands", index, (ring, n) -> ring.stands(n, 0, 7), no);
-            refused("calls from", index, (ring, n) -> ring.calls(n, 0, 0), no);
-            refused("calls to", index, (ring, n) -> ring.calls(0, n, 201), no);
-            refused("told", index, (ring, n) -> ring.told(n, 0), no);
-            refused("shelter, another what", index, (ring, n) -> ring.shelter(n, 3), no);
-            refused("move", index, (ring, n) -> ring.move(n, 50), no);
+        OfOne[] calls = {(ring, n) -> ring.walker(n, 14), (ring, n) -> ring.pace(n, 100), (ring, n) -> ring.shun(n, n, true),
+            (ring, n) -> ring.where(n, 201), (ring, n) -> ring.up(n, n), (ring, n) -> ring.circle(n, -1), (ring, n) -> ring.laps(n, 201),
+            (ring, n) -> ring.alone(n, LONG), (ring, n) -> ring.both(n, n), (ring, n) -> ring.stands(n, 0, 7),
+            (ring, n) -> ring.calls(n, 0, 0), (ring, n) -> ring.calls(0, n, 201), (ring, n) -> ring.told(n, 0),
+            (ring, n) -> ring.rests(n, n), (ring, n) -> ring.shelter(n, 3), (ring, n) -> ring.move(n, LONG)};
+        for (OfOne call : calls) {
+            refused("IndexOutOfBoundsException", call, -1);
+            refused("IndexOutOfBoundsException", call, WALKERS);
         }
+        PromenadeRing seven = Check.ring(Check.lines("walker at 9 pace 9", 7));
+        Check.argument("out of no PACE, of 7", () -> seven.out(100));
+        PromenadeRing twelve = new PromenadeRing();
+        for (int i = 0; i < 12; i++) {
+            Check.promenade(twelve, "");
+        }
+        Check.markedPromenade(twelve, "misty ^x");
     }
 
     /** Calls that use the TAPE up, when it is not what they ask for. */
     private static void rows() {
         Check.says("a call that throws changes nothing but the TAPE, where it is used up");
         int[][] none = {{0}, {0, 1, 2}, {0, WALKERS}, {WALKERS, 0}, {1, 1}, {255, 0}, {0, 1, 0, 255}, new int[41], new int[42]};
-        Named[] backs = {new Named("backs", PromenadeRing::backs), new Named("ask", (ring, n) -> ring.ask())};
+        Named[] backs = {new Named("IllegalArgumentException: the TAPE is not that (none may be told).", PromenadeRing::backs),
+            new Named("ASK (the TAPE as for BACKS); NONE. IllegalArgumentException: the TAPE is not that.", (ring, n) -> ring.ask())};
         refuseRows(backs, none);
         int[][] noLengths = {{0}, {10, 1, 20}, {10, 2}, {10, 255}, {10, 1, 20, 3}, new int[41], new int[42]};
-        Named[] lengths = {new Named("round", (ring, n) -> ring.round(n < 0)), new Named("tries", (ring, n) -> ring.tries())};
+        Named[] lengths = {
+            new Named("or LEAST; NONE. IllegalArgumentException: the TAPE is not that (none may be told).", (ring, n) -> ring.round(n < 0)),
+            new Named("TRY (the TAPE as for ROUND); NONE. IllegalArgumentException: the TAPE is not that.", (ring, n) -> ring.tries())};
         refuseRows(lengths, noLengths);
     }
 
     private static void refuseRows(Named[] calls, int[][] rows) {
         for (Named c : calls) {
+            Check.says(c.says);
             for (int[] row : rows) {
                 for (int k : new int[] {-1, 0}) {
                     PromenadeRing ring = busy();
                     String before = Picture.of(ring);
                     Check.put(ring, row);
-                    Check.argument(c.name + " of " + row.length + " bytes", () -> c.call.answer(ring, k));
+                    Check.argument("of " + row.length + " bytes", () -> c.call.answer(ring, k));
                     Check.due("the TAPE is used up", false, ring.end(1));
                     Check.due("nothing else changed", before, Picture.of(ring));
                 }
@@ -293,11 +314,8 @@ public final class EdgeThrowsTest {
         Check.says("(draws, too; nothing stays)");
         PromenadeRing ring = busy();
         String before = Picture.of(ring);
-        for (Bounded b : bounded()) {
-            boolean act = b.name.equals("hours") || b.name.equals("out") || b.name.equals("pace");
-            if (!act) {
-                b.call.answer(ring, b.most);
-            }
+        for (Bounded b : bounded().subList(ACTS, bounded().size())) {
+            b.call.answer(ring, b.most);
         }
         ring.up(0, 1);
         ring.shelter(0, 2);

@@ -35,6 +35,12 @@ public final class ModelTest {
     }
 
     private boolean run() {
+        if (random.nextInt(3) == 0) {
+            tell(crowd());
+        }
+        for (int i = random.nextInt(16) == 0 ? 13 : 0; i > 0 && right; i--) {
+            tell("hour " + i);
+        }
         for (int i = random.nextInt(4); i > 0 && right; i--) {
             tellPromenade();
         }
@@ -222,8 +228,25 @@ public final class ModelTest {
         return text.length() > 400 ? text.substring(0, 400) : text;
     }
 
+    /** A ring so short and so full that what wraps around, is alike or stands in the way comes again and again. */
+    private String crowd() {
+        int yards = random.nextBoolean() ? 10 : 10 + upTo(12);
+        StringBuilder b = new StringBuilder("long " + yards);
+        for (int i = 3 + upTo(4); i > 0; i--) {
+            b.append(";walker at ").append(upTo(yards - 1)).append(" pace ").append(upTo(random.nextInt(4) == 0 ? 99 : 4));
+            b.append(random.nextInt(3) == 0 ? " black" : "");
+        }
+        for (int i = upTo(4); i > 0; i--) {
+            b.append(";shelter at ").append(upTo(yards - 1)).append(" seats ").append(1 + upTo(2));
+        }
+        return b.append(random.nextBoolean() ? ";shuns 0 1" : ";mist 50").append(random.nextBoolean() ? ";shuns 2 0" : "").toString();
+    }
+
     private void tellPromenade() {
-        String text = text(false);
+        tell(text(false));
+    }
+
+    private void tell(String text) {
         put(text.getBytes(StandardCharsets.ISO_8859_1));
         same("promenade: " + text, ring::promenade, model::promenade);
         same("fault", ring::fault, () -> model.fault);

@@ -23,13 +23,18 @@ final class Check {
     /** All that is asked behind this is of words that stand in the document just so, where the document is at hand. */
     static void says(String words) {
         sentence = "\"" + words + "\": ";
+        due("the document has these words", true, document().isEmpty() || document().contains(words));
+    }
+
+    /** The document; empty, where it is not at hand. */
+    static String document() {
         if (document.isEmpty() && Files.exists(DOCUMENT)) {
             document = read(DOCUMENT);
         }
-        due("the document has these words", true, document.isEmpty() || document.contains(words));
+        return document;
     }
 
-    private static String read(Path path) {
+    static String read(Path path) {
         try {
             return Files.readString(path);
         } catch (IOException none) {

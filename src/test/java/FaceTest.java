@@ -2,11 +2,14 @@ import java.lang.reflect.Constructor;
 import java.lang.reflect.Field;
 import java.lang.reflect.Method;
 import java.lang.reflect.Modifier;
+import java.nio.file.Path;
 import java.util.ArrayList;
 import java.util.Collections;
 import java.util.HashSet;
 import java.util.List;
 import java.util.Set;
+import java.util.regex.Matcher;
+import java.util.regex.Pattern;
 
 /** The public face, just as the document has it, and nothing else that is not private. */
 public final class FaceTest {
@@ -87,7 +90,32 @@ public final class FaceTest {
             Check.due(inside.getName() + " is static and not open", true,
                 Modifier.isStatic(is) && !Modifier.isPublic(is) && !Modifier.isProtected(is));
         }
+        documentHasTheFace();
+        eachPromiseHasItsChecks();
         Check.end("FaceTest");
+    }
+
+    private static void documentHasTheFace() {
+        Matcher line = Pattern.compile("\n    public (\\w+ \\w+)\\(([^)]*)\\)(?: throws ([^;]*))?;").matcher(Check.document());
+        List<String> told = new ArrayList<>();
+        while (line.find()) {
+            String parameters = line.group(2).replaceAll("(\\w+) \\w+", "$1");
+            String thrown = line.group(3) == null ? "" : " " + line.group(3).replace(",", "");
+            told.add(line.group(1) + "(" + parameters + ")" + thrown);
+        }
+        Check.due("the document's face", List.of(FACE).toString(), Check.document().isEmpty() ? List.of(FACE).toString() : told.toString());
+    }
+
+    /** The promises follow the face: the first one is the constructor. */
+    private static void eachPromiseHasItsChecks() {
+        Path tests = Path.of("src/test/java");
+        String checks = Check.read(tests.resolve("Promises1Test.java")) + Check.read(tests.resolve("Promises2Test.java"));
+        for (int i = 0; i < FACE.length; i++) {
+            String name = FACE[i].substring(FACE[i].indexOf(' ') + 1, FACE[i].indexOf('('));
+            String heading = "## Promise " + (i + 2) + ": " + name;
+            Check.says(heading);
+            Check.due("it has checks of its own", true, checks.contains("Check.says(\"" + heading + "\")"));
+        }
     }
 
     private static void methods(Class<?> type) {
